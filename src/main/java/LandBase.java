@@ -258,22 +258,23 @@ public final class LandBase {
 
     /** Puts out what a statement answers; the offered answers of a question stand in place already. */
     private void putAnswer(int code) {
-        boolean asked = reader.verb >= FIND && code == DONE;
-        int last = intCount + (asked ? 2 + offered : 1);
-        if (asked && last > QUESTION_INTS) {
-            putAnswerCode(TOO_MANY_INTS);
+        if (reader.verb < FIND || code != DONE) {
+            putInt(code);
             return;
         }
-        putAnswerCode(code);
-        if (asked) {
-            putAnswerCode(reader.verb == JOIN ? offered / 2 : offered);
-            intCount = last;
+        int last = intCount + 2 + offered;
+        if (last > QUESTION_INTS) {
+            putInt(TOO_MANY_INTS);
+            return;
         }
+        putInt(DONE);
+        putInt(reader.verb == JOIN ? offered / 2 : offered);
+        intCount = last;
     }
 
-    private void putAnswerCode(int code) {
+    private void putInt(int number) {
         if (intCount < INTS_ROOM) {
-            ints[intCount] = code;
+            ints[intCount] = number;
             intCount++;
         }
     }
@@ -761,6 +762,7 @@ public final class LandBase {
                     return abort();
                 case SAVE:
                     return open ? OUT_OF_TURN : save();
+                case PACK:
                 default:
                     return DONE;
             }
