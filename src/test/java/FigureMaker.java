@@ -94,6 +94,102 @@ final class FigureMaker {
         return new Figure(2, closed(row));
     }
 
+    /** A walk along the lines of a grid, or the outline of some of its cells: much of these runs along one another. */
+    Figure cellFigure(int grid) {
+        if (below(3) == 0) {
+            return walk(grid);
+        }
+        for (int tries = 0; tries < 50; tries++) {
+            Figure outline = outline(someCells(grid), grid);
+            if (outline != null && outline.size() <= 40 && outline.rows.size() <= 8) {
+                return outline;
+            }
+        }
+        return walk(grid);
+    }
+
+    private Figure walk(int grid) {
+        int n = 2 + below(3);
+        long[] numbers = new long[2 * n];
+        numbers[0] = below(grid + 1);
+        numbers[1] = below(grid + 1);
+        for (int i = 1; i < n; i++) {
+            int axis = below(2);
+            numbers[2 * i] = numbers[2 * i - 2];
+            numbers[2 * i + 1] = numbers[2 * i - 1];
+            numbers[2 * i + axis] = (numbers[2 * i + axis] + 1 + below(grid)) % (grid + 1);
+        }
+        return new Figure(1, numbers);
+    }
+
+    /** Cells grown from one, each beside an earlier one. */
+    private boolean[] someCells(int grid) {
+        boolean[] cells = new boolean[grid * grid];
+        cells[below(cells.length)] = true;
+        int wanted = 1 + below(cells.length);
+        for (int tries = 0; tries < 20 * wanted && wanted > 1; tries++) {
+            int c = below(cells.length);
+            boolean beside = has(cells, grid, c % grid - 1, c / grid) || has(cells, grid, c % grid + 1, c / grid)
+                || has(cells, grid, c % grid, c / grid - 1) || has(cells, grid, c % grid, c / grid + 1);
+            if (!cells[c] && beside) {
+                cells[c] = true;
+                wanted--;
+            }
+        }
+        return cells;
+    }
+
+    private static boolean has(boolean[] cells, int grid, int x, int y) {
+        return x >= 0 && y >= 0 && x < grid && y < grid && cells[y * grid + x];
+    }
+
+    /** Goes round the cells, these to the left; null where two cells have only a corner in common. */
+    private Figure outline(boolean[] cells, int grid) {
+        int side = grid + 1;
+        int[] next = new int[side * side];
+        Arrays.fill(next, -1);
+        for (int y = 0; y < grid; y++) {
+            for (int x = 0; x < grid; x++) {
+                int v = y * side + x;
+                int[][] ways = {{0, -1, v, v + 1}, {1, 0, v + 1, v + 1 + side}, {0, 1, v + 1 + side, v + side}, {-1, 0, v + side, v}};
+                for (int[] way : ways) {
+                    if (has(cells, grid, x, y) && !has(cells, grid, x + way[0], y + way[1])) {
+                        if (next[way[2]] >= 0) {
+                            return null;
+                        }
+                        next[way[2]] = way[3];
+                    }
+                }
+            }
+        }
+        return chained(next, side);
+    }
+
+    /** The first vertex is the lowest, so the first ring is the outer one. */
+    private Figure chained(int[] next, int side) {
+        Figure f = new Figure(2);
+        boolean dense = below(4) == 0;
+        for (int v = 0; v < next.length; v++) {
+            List<long[]> ring = new ArrayList<>();
+            int w = v;
+            int from = -1;
+            while (next[w] >= 0) {
+                int to = next[w];
+                if (from < 0 || to - w != w - from || dense && below(2) == 0) {
+                    ring.add(new long[] {w % side, w / side});
+                }
+                next[w] = -1;
+                from = w;
+                w = to;
+            }
+            if (!ring.isEmpty()) {
+                ring.add(ring.get(0));
+                f.rows.add(ring.toArray(new long[0][]));
+            }
+        }
+        return f;
+    }
+
     private long[] closed(long[][] places) {
         long[] numbers = new long[2 * places.length + 2];
         for (int i = 0; i <= places.length; i++) {

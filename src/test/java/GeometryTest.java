@@ -15,11 +15,11 @@ public final class GeometryTest {
 
     public static void main(String[] args) {
         int first = args.length > 0 ? Integer.parseInt(args[0]) : 1;
-        int rounds = args.length > 1 ? Integer.parseInt(args[1]) : 40;
+        int rounds = args.length > 1 ? Integer.parseInt(args[1]) : 56;
         for (int seed = first; seed < first + rounds; seed++) {
             FigureMaker maker = new FigureMaker(seed);
             longest = args.length > 2 ? Integer.parseInt(args[2]) : 14;
-            round(maker, seed % 5);
+            round(maker, seed % 7);
         }
         System.out.println(valid + " valid figures, " + pairs + " pairs, relations " + Arrays.toString(holding));
         Desk.finish();
@@ -28,19 +28,24 @@ public final class GeometryTest {
     private static final int MAPPED = 2;
     private static final int WIDE = 3;
     private static final int LONG = 4;
+    private static final int CELLS = 5;
+    private static final int MAPPED_CELLS = 6;
 
     private static Figure draw(FigureMaker maker, int mode, int grid) {
         if (mode == WIDE) {
             return maker.wideFigure();
         }
+        if (mode >= CELLS) {
+            return maker.cellFigure(grid);
+        }
         return mode == LONG ? maker.longFigure(grid, 6 + maker.below(longest - 6)) : maker.figure(grid);
     }
 
-    /** Mode 0, 1: as drawn on the grid; MAPPED to great numbers; WIDE: of great numbers; LONG: of many places. */
+    /** Mode 0, 1: as drawn on the grid; MAPPED to great numbers; WIDE: of great numbers; LONG: of many places; CELLS: of ways along a grid. */
     private static void round(FigureMaker maker, int mode) {
         int grid = mode == 1 ? 9 : mode == LONG ? 8 + maker.below(20) : 4 + maker.below(4);
         int wanted = mode == LONG ? 5 : 14;
-        long[] map = mode == MAPPED ? maker.map(grid) : new long[] {1, 0, 0, 0, 1, 0};
+        long[] map = mode == MAPPED || mode == MAPPED_CELLS ? maker.map(grid) : new long[] {1, 0, 0, 0, 1, 0};
         Desk desk = new Desk();
         List<Figure> drawn = new ArrayList<>();
         List<Figure> kept = new ArrayList<>();

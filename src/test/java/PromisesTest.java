@@ -135,6 +135,12 @@ public final class PromisesTest {
         desk.dueWrong("PACK;\n PAC;", 1, 7);
         desk.dueWrong("PACK;PACKS;", 1, 5);
         desk.dueWrong("PACK PACK;", 0, 5);
+        desk.dueWrong("PACKZ;", 0, 0);
+        desk.dueWrong("PACKA;", 0, 0);
+        desk.dueWrong("PACK[;", 0, 4);
+        desk.dueWrong("PACK@;", 0, 4);
+        desk.dueWrong("DROP 1/;", 0, 6);
+        desk.dueWrong("DROP 1:;", 0, 6);
         desk.dueWrong(";", 0, 0);
         desk.dueWrong("pack;", 0, 0);
         desk.dueWrong("\tPACK;", 0, 0);
@@ -165,6 +171,10 @@ public final class PromisesTest {
         desk.dueWrong("ADD 2 POLYGON((0 0,1 0,1 1,0 0),);", 0, 32);
         desk.dueWrong("ADD 2 POLYGON((0 0,1 0,1 1,0 0);", 0, 31);
         desk.dueWrong("ADD 2 POLYGON();", 0, 14);
+        desk.dueWrong("ADD 2 POLYGON;", 0, 13);
+        desk.dueWrong("ADD 2 LINESTRING;", 0, 16);
+        desk.dueWrong("ADD 2 POINT;", 0, 11);
+        desk.dueWrong("FIND TOUCHES POLYGON(;", 0, 21);
         desk.dueWrong("ADD 2 CIRCLE(1 2);", 0, 6);
         desk.dueWrong("ADD 2 POINTS(1 2);", 0, 6);
         desk.dueWrong("ADD 2;", 0, 5);
@@ -182,6 +192,27 @@ public final class PromisesTest {
         desk.dueWrong("DROP 1;DROP 9;?PACK;", 2, 14);
         Desk.due("those ahead are done", desk.base.live(), 0);
         wrongWhereManyPlaces(desk);
+        wrongAheadOfCutBytes();
+    }
+
+    /** What end() took away, or an earlier tape had there, is not looked at. */
+    private static void wrongAheadOfCutBytes() {
+        String[] texts = {"PACK;DROP 111111111111111111111111111111", "PACK;PACK                               ",
+            "PACK;PACKPACKPACKPACKPACKPACKPACKPACKPAC", "PACK;PACK;PACK;PACK;PACK;PACK;PACK;PACK;"};
+        int[] cuts = {12, 9, 9, 9};
+        for (int i = 0; i < texts.length; i++) {
+            Desk desk = new Desk();
+            desk.type(texts[i]);
+            desk.base.end(cuts[i]);
+            Desk.due("run of the first " + cuts[i] + " of " + texts[i], desk.base.run(), 1);
+            Desk.due("wrong of the first " + cuts[i] + " of " + texts[i], desk.base.wrong(), cuts[i]);
+        }
+        Desk desk = new Desk();
+        desk.type("ADD 1 POINT(1 1);ADD 2 POINT(1 1);ADD 3 ");
+        desk.base.end(17);
+        Desk.due("run", desk.base.run(), 1);
+        Desk.due("wrong", desk.base.wrong(), -1);
+        Desk.due("live", desk.base.live(), 1);
     }
 
     private static void wrongWhereManyPlaces(Desk desk) {
