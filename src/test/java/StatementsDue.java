@@ -94,6 +94,10 @@ final class StatementsDue {
         dueCode(desk, 3, "POLYGON((0 0,2 0,2 2,4 2,4 4,2 4,2 2,0 2,0 0))");
         dueCode(desk, 0, shell + ",(2 2,4 2,4 4,2 2))");
         dueCode(desk, 3, shell + ",(2 2,4 2,4 4))");
+        dueCode(desk, 3, shell + ",(2 2))");
+        dueCode(desk, 3, shell + ",(2 2,3 3))");
+        dueCode(desk, 3, shell + ",(2 2,3 3,2 2))");
+        dueCode(desk, 3, shell + ",(2 2,4 2,4 4,2 2),(7 7))");
         dueCode(desk, 3, shell + ",(20 2,24 2,24 4,20 2))");
         dueCode(desk, 3, shell + ",(8 2,14 2,8 4,8 2))");
         dueCode(desk, 3, shell + ",(-5 -5,20 -5,20 20,-5 20,-5 -5))");
