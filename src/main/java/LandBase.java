@@ -1120,8 +1120,8 @@ public final class LandBase {
         }
 
         static boolean isInBoxOf(Shape s, int i, int px, int py) {
-            return px >= Math.min(s.x[i], s.x[i + 1]) && px <= Math.max(s.x[i], s.x[i + 1])
-                && py >= Math.min(s.y[i], s.y[i + 1]) && py <= Math.max(s.y[i], s.y[i + 1]);
+            boolean isByX = s.x[i] <= px && px <= s.x[i + 1] || s.x[i + 1] <= px && px <= s.x[i];
+            return isByX && (s.y[i] <= py && py <= s.y[i + 1] || s.y[i + 1] <= py && py <= s.y[i]);
         }
 
         static boolean isOnWay(Shape s, int i, int px, int py) {
@@ -1249,7 +1249,10 @@ public final class LandBase {
 
         /** Compares numbers of 64 bits without a sign. */
         static int compareBits(long a, long b) {
-            return Long.compare(a ^ TOP_BIT, b ^ TOP_BIT);
+            if (a == b) {
+                return 0;
+            }
+            return (a ^ TOP_BIT) < (b ^ TOP_BIT) ? -1 : 1;
         }
 
         /** Compares a * b with c * d, none of which is below 0. */

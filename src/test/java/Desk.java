@@ -79,4 +79,63 @@ final class Desk {
         due("run() of " + text, say(text), done);
         due("wrong() of " + text, base.wrong(), position);
     }
+
+    /** All that is to be seen of what the base keeps. */
+    String state() {
+        StringBuilder text = new StringBuilder();
+        text.append(base.isDown()).append(base.isOpen()).append(' ').append(base.used()).append(' ').append(base.saves());
+        int live = base.live();
+        for (int i = 0; i < live; i++) {
+            int id = base.idAt(i);
+            text.append("; ").append(id).append(' ').append(base.kindOf(id)).append(' ').append(base.rings(id));
+            int places = base.places(id);
+            for (int j = 0; j < places; j++) {
+                text.append(' ').append(base.at(id, j, 0)).append(',').append(base.at(id, j, 1));
+            }
+        }
+        return text.toString();
+    }
+
+    /** Says a statement that must be refused, and looks whether it changed anything. */
+    void dueRefused(String statement, int code) {
+        String before = state();
+        dueInts(statement, code);
+        String after = state();
+        if (!after.equals(before)) {
+            wrongs++;
+            System.out.println(statement + " was refused, but " + before + " became " + after);
+        }
+    }
+
+    /** Statements of a transaction that count just so many bytes; 1 and 9 must be live, 8 not. */
+    static String bytes(int count) {
+        StringBuilder text = new StringBuilder();
+        int left = count;
+        if (left % 8 == 4) {
+            text.append("ADD 8 POINT(0 0);");
+            left -= 28;
+        }
+        if (left % 16 == 8) {
+            text.append("DROP 9;");
+            left -= 8;
+        }
+        for (int i = 0; i < left / 16; i++) {
+            text.append("MOVE1 0 0;");
+        }
+        return text.toString();
+    }
+
+    /** Says a text of statements, however long, in as many runs as it takes; all must be done. */
+    void sayLong(String text) {
+        int from = 0;
+        while (from < text.length()) {
+            int stop = text.length() - from <= 3900 ? text.length() : text.lastIndexOf(';', from + 3900) + 1;
+            say(text.substring(from, stop));
+            due("wrong() of a long text", base.wrong(), -1);
+            for (int i = 0; i < base.outputs(); i += 97) {
+                due("a statement of a long text", base.out(i), 0);
+            }
+            from = stop;
+        }
+    }
 }

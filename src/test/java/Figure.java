@@ -17,6 +17,37 @@ final class Figure {
         }
     }
 
+    /** Reads a text such as POLYGON((0 0,4 0,4 4,0 0)). */
+    static Figure of(String text) {
+        int kind = text.startsWith("POINT") ? 0 : text.startsWith("LINE") ? 1 : 2;
+        Figure f = new Figure(kind);
+        for (String ring : text.substring(text.indexOf('(')).replace("(", "").split("\\)")) {
+            String[] places = ring.replaceFirst("^,", "").split(",");
+            long[][] row = new long[places.length][];
+            for (int i = 0; i < row.length; i++) {
+                String[] numbers = places[i].trim().split(" +");
+                row[i] = new long[] {Long.parseLong(numbers[0]), Long.parseLong(numbers[1])};
+            }
+            f.rows.add(row);
+        }
+        return f;
+    }
+
+    /** The same places in the opposite order; if it is a closed row, begun elsewhere too. */
+    Figure turned(int by) {
+        Figure other = new Figure(kind);
+        for (long[][] row : rows) {
+            int n = row.length;
+            boolean isClosed = n > 1 && row[0][0] == row[n - 1][0] && row[0][1] == row[n - 1][1];
+            long[][] back = new long[n][];
+            for (int i = 0; i < n; i++) {
+                back[i] = isClosed && kind == 2 ? row[(2 * n - 2 - i + by % n) % (n - 1)] : row[n - 1 - i];
+            }
+            other.rows.add(back);
+        }
+        return other;
+    }
+
     /** The image under x' = m0 x + m1 y + m2, y' = m3 x + m4 y + m5. */
     Figure mapped(long[] m) {
         Figure image = new Figure(kind);
