@@ -409,15 +409,15 @@ public final class CallEdgesTest {
         int done = 0;
         int x = 0;
         // Four rows of 40 bytes, a run and a question.
-        while (calls + 6 <= 510) {
+        while (calls + 6 <= 504) {
             done += desk.say(padded);
             Desk.due("live", desk.base.live(), 99);
             calls += 6;
             x = calls == 6 ? desk.base.at(5, 0, 0) : x;
         }
-        Desk.due("statements done", done, 14 * 85);
-        Desk.due("calls", calls, 510);
-        Desk.due("moved each time", desk.base.at(5, 0, 0), x + 84);
+        Desk.due("statements done", done, 14 * 84);
+        Desk.due("calls", calls, 504);
+        Desk.due("moved each time", desk.base.at(5, 0, 0), x + 83);
         Desk.due("flaws", desk.base.flaws(), 0);
     }
 }

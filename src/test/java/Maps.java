@@ -1,4 +1,4 @@
-/** Maps of the plane that keep validity and relations, for figures of numbers from -12 to 24. */
+/** Maps of the plane that keep validity and relations, for figures of numbers from -20 to 24. */
 final class Maps {
     /** All the turns and mirrorings of the grid, and leaning ones with images up to 1073741823 in size. */
     static final long[][] ALL = {

@@ -5,10 +5,12 @@ public final class PowerEdgesTest {
     public static void main(String[] args) {
         whatIsCommittedStays();
         bytesOfEach();
+        bytesAddUp();
         roomOfEach();
         roomIsOfOneTransaction();
         noRoomOutsideOfOne();
         blocksOfACommit();
+        blocksOfGreatOnes();
         logIsFullByOne();
         logIsFullByATransaction();
         saveInstead();
@@ -89,6 +91,43 @@ public final class PowerEdgesTest {
         dueBytes("BEGIN;SAVE;PACK;DROP 5;NEAR 1 0 0;", 0);
     }
 
+    private static void dueSum(String statements, int count) {
+        Desk desk = new Desk();
+        desk.sayLong("FILL 1 100 POINTS 0 0 9 9;SAVE;BEGIN;" + statements + "COMMIT;");
+        Desk.due("blocks of " + count + " bytes", desk.base.used(), (count + 223) / 224 + 1);
+    }
+
+    private static String numbered(String statement, int from, int count) {
+        StringBuilder text = new StringBuilder();
+        for (int i = from; i < from + count; i++) {
+            text.append(statement.replace("#", Integer.toString(i)));
+        }
+        return text.toString();
+    }
+
+    /** "those of a TRANSACTION": the BYTES of each of its statements are summed up. */
+    private static void bytesAddUp() {
+        String add = "ADD # POINT(0 0);";
+        String line = "ADD # LINESTRING(0 0,1 1);";
+        String fill = "FILL # 1 POINTS 0 0 5 5;";
+        dueSum(numbered(add, 200, 8), 224);
+        dueSum(numbered(add, 200, 8) + "DROP 1;", 232);
+        dueSum(numbered(line, 200, 56), 2016);
+        dueSum(numbered(line, 200, 55) + numbered(add, 300, 1) + "MOVE 1 0 0;DROP 1;", 2032);
+        dueSum(numbered("DROP #;", 1, 28), 224);
+        dueSum(numbered("DROP #;", 1, 29), 232);
+        dueSum(numbered("DROP #;", 1, 84), 672);
+        dueSum(numbered("DROP #;", 1, 85), 680);
+        dueSum(numbered("MOVE # 1 1;", 1, 14), 224);
+        dueSum(numbered("MOVE # 1 1;", 1, 13) + "DROP 14;DROP 15;", 224);
+        dueSum(numbered("MOVE # 1 1;", 1, 15), 240);
+        dueSum(numbered("MOVE # 1 1;", 1, 42), 672);
+        dueSum(numbered(fill, 200, 7), 224);
+        dueSum(numbered(fill, 200, 13) + numbered(add, 300, 1) + "DROP 1;", 452);
+        dueSum(numbered(fill, 200, 14), 448);
+        dueSum(numbered(fill, 200, 14) + "DROP 1;", 456);
+    }
+
     private static void dueRoom(String statement, int count) {
         Desk desk = two();
         desk.sayLong("BEGIN;" + Desk.bytes(14112 - count));
@@ -164,6 +203,18 @@ public final class PowerEdgesTest {
         desk.dueInts("ADD 2 LINESTRING(0 0" + ",1 1,0 0".repeat(12) + ");ADD 3 LINESTRING(0 0" + ",1 1,0 0".repeat(12) + ",1 1);", 0, 0);
         // 16 + 4 + 200 and 16 + 4 + 208 bytes
         Desk.due("220 and 228 bytes, one by one", desk.base.used(), 7);
+    }
+
+    /** Each number of blocks that a TRANSACTION may need: by just so many BYTES, and by 4 more. */
+    private static void blocksOfGreatOnes() {
+        for (int k = 4; k <= 63; k++) {
+            Desk desk = two();
+            desk.sayLong("BEGIN;" + Desk.bytes(224 * k) + "COMMIT;");
+            Desk.due("blocks of " + 224 * k + " bytes", desk.base.used(), k + 1);
+            Desk more = two();
+            more.sayLong("BEGIN;" + Desk.bytes(224 * k - 220) + "COMMIT;");
+            Desk.due("blocks of " + (224 * k - 220) + " bytes", more.base.used(), k + 1);
+        }
     }
 
     private static void empties(Desk desk, int count) {

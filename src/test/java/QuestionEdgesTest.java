@@ -18,6 +18,7 @@ public final class QuestionEdgesTest {
         distanceOfLines();
         distanceOfPolygons();
         distancesExact();
+        distancesOneByOne();
         joinRanges();
         joinAnother();
         joinOrder();
@@ -134,6 +135,9 @@ public final class QuestionEdgesTest {
         window(HOLED, "11 0 12 10", 0);
         window(HOLED, "10 2 12 3", 1);
         window(HOLED, "-3 -3 -1 12", 0);
+        // From ring to ring there is no way: these would pass (5, 5).
+        window("POLYGON((0 0,10 0,10 10,0 10,0 0),(7 7,3 7,3 3,7 3,7 7))", "4 4 6 6", 0);
+        window("POLYGON((0 0,10 0,10 10,0 10,0 0),(7 5,5 3,3 5,5 7,7 5),(1 5,2 4,2 6,1 5))", "5 5 5 5", 0);
         window("POLYGON((0 0,10 0,0 10,0 0))", "6 6 10 10", 0);
         window("POLYGON((0 0,10 0,0 10,0 0))", "5 5 10 10", 1);
         window("POLYGON((0 0,10 0,0 10,0 0))", "4 5 4 5", 1);
@@ -224,6 +228,11 @@ public final class QuestionEdgesTest {
     }
 
     private static void distanceOfPolygons() {
+        nearer("POLYGON((0 0,9 0,9 9,0 9,0 0))", "POINT(20 20)", 5, 5, -1);
+        nearer("POLYGON((0 0,9 0,9 9,0 9,0 0))", "POINT(5 6)", 5, 5, -1);
+        // From ring to ring there is no way: these would pass (5, 5).
+        nearer("POLYGON((0 0,10 0,10 10,0 10,0 0),(7 7,3 7,3 3,7 3,7 7))", "POINT(5 6)", 5, 5, 1);
+        nearer("POLYGON((0 0,10 0,10 10,0 10,0 0),(7 5,5 3,3 5,5 7,7 5),(1 5,2 4,2 6,1 5))", "POINT(6 5)", 5, 5, 1);
         nearer(HOLED, "POINT(5 7)", 5, 5, 0);
         nearer(HOLED, "POINT(4 5)", 5, 5, 1);
         nearer(HOLED, "POINT(2 5)", 5, 5, -1);
@@ -256,6 +265,19 @@ public final class QuestionEdgesTest {
         nearer("LINESTRING(1000000001 0,0 1000000001)", "POINT(500000000 500000001)", 0, 0, -1);
         nearer("LINESTRING(1000000001 0,0 1000000001)", "POINT(500000000 500000000)", 0, 0, 1);
         nearer("LINESTRING(-1073741823 -1073741822,1073741823 1073741820)", "LINESTRING(-1073741823 -1073741822,1073741822 1073741819)", 3, 5, -1);
+    }
+
+    /** What was asked ahead leaves no trace. */
+    private static void distancesOneByOne() {
+        Desk desk = new Desk();
+        desk.dueInts("ADD 1 POLYGON((0 0,9 0,9 9,0 9,0 0));ADD 2 POINT(5 5);ADD 3 POINT(40 0);ADD 4 LINESTRING(0 20,20 20);", 0, 0, 0, 0);
+        desk.dueInts("NEAR 4 100 100;NEAR 4 5 5;NEAR 4 40 0;NEAR 4 4 4;", 0, 4, 4, 3, 1, 2, 0, 4, 1, 2, 4, 3, 0, 4, 3, 4, 1, 2, 0, 4, 1, 2, 4, 3);
+        Desk.due("far", desk.base.nearer(3, 4, -900, 70), 1);
+        Desk.due("in it", desk.base.nearer(1, 2, 5, 5), 0);
+        Desk.due("in it", desk.base.nearer(1, 2, 4, 5), -1);
+        Desk.due("in it", desk.base.nearer(2, 1, 4, 5), 1);
+        Desk.due("far", desk.base.nearer(4, 3, -900, 70), -1);
+        Desk.due("in it", desk.base.nearer(2, 1, 4, 5), 1);
     }
 
     /** "5 (b below a, d below c, or b - a or d - c above 63)". */

@@ -1,3 +1,6 @@
+import java.util.ArrayList;
+import java.util.List;
+
 /** The edges of INTERIOR, BOUNDARY and the RELATIONS in "2 SHAPES"; each case turned, mirrored, leaning and in great numbers. */
 public final class RelationEdgesTest {
     /** How two shapes may lie, and by which of the five relations, from the first to the second, it is told. */
@@ -35,11 +38,17 @@ public final class RelationEdgesTest {
         polygonsInPolygons();
         polygonsAndHoles();
         polygonsThatAreTheSame();
+        manyPlacesOnOneLine();
+        manyCrossings();
+        oneBaseForAll();
         hairsBreadths();
         Desk.finish();
     }
 
+    private static final List<String[]> PAIRS = new ArrayList<>();
+
     private static void due(Lie lie, String a, String b) {
+        PAIRS.add(new String[] {a, b, lie.name()});
         Figure first = Figure.of(a);
         Figure second = Figure.of(b);
         Desk.due("the oracle says of " + a + " and " + b, Oracle.relations(first, second), lie.bits);
@@ -87,6 +96,9 @@ public final class RelationEdgesTest {
         due(Lie.APART, "POINT(3 3)", line);
         due(Lie.APART, "POINT(6 7)", line);
         due(Lie.APART, "POINT(1 1)", "LINESTRING(0 0,3 2)");
+        due(Lie.TOUCH, "POINT(0 0)", "LINESTRING(0 0,3 2)");
+        due(Lie.TOUCH, "POINT(3 2)", "LINESTRING(0 0,3 2)");
+        due(Lie.IN, "POINT(3 2)", "LINESTRING(0 0,6 4)");
     }
 
     /** "a point that is the first or last place is of the BOUNDARY however often it is passed". */
@@ -238,6 +250,11 @@ public final class RelationEdgesTest {
         due(Lie.MEET, "LINESTRING(-2 5,12 5)", SQUARE);
         due(Lie.MEET, "LINESTRING(-2 -2,12 12)", SQUARE);
         due(Lie.MEET, "LINESTRING(5 5,5 10,5 11)", SQUARE);
+        // Only its first unit, or its last one, is outside.
+        due(Lie.MEET, "LINESTRING(-1 0,4 0,4 4)", SQUARE);
+        due(Lie.MEET, "LINESTRING(4 4,4 0,11 0)", SQUARE);
+        due(Lie.TOUCH, "LINESTRING(-1 0,4 0)", SQUARE);
+        due(Lie.IN, "LINESTRING(0 0,4 0,4 4)", SQUARE);
         due(Lie.MEET, "LINESTRING(-1 2,2 -1)", SQUARE);
         due(Lie.APART, "LINESTRING(-2 11,12 11)", SQUARE);
         due(Lie.APART, "LINESTRING(-2 1,1 -2)", SQUARE);
@@ -358,6 +375,64 @@ public final class RelationEdgesTest {
         due(Lie.SAME, "POLYGON((0 0,9 0,9 9,0 9,0 0),(1 1,2 1,2 2,1 1),(6 5,7 5,7 6,6 5))",
             "POLYGON((0 0,9 0,9 9,0 9,0 0),(6 5,7 5,7 6,6 5),(1 1,2 1,2 2,1 1))");
         due(Lie.MEET, "POLYGON((0 0,9 0,9 9,0 9,0 0),(1 1,2 1,2 2,1 1))", "POLYGON((0 0,9 0,9 9,0 9,0 0),(6 5,7 5,7 6,6 5))");
+    }
+
+    /** A side of 38 places, the most there may be on one line: all of them cut a way that runs along it. */
+    private static void manyPlacesOnOneLine() {
+        StringBuilder row = new StringBuilder();
+        for (int i = 0; i < 38; i++) {
+            row.append(i - 15).append(" 0,");
+        }
+        String many = "POLYGON((" + row + "0 9,-15 0))";
+        due(Lie.SAME, "POLYGON((-15 0,22 0,0 9,-15 0))", many);
+        due(Lie.TOUCH, "LINESTRING(-16 0,23 0)", many);
+        due(Lie.TOUCH, "LINESTRING(-15 0,22 0)", many);
+        due(Lie.MEET, "LINESTRING(-16 0,22 0,0 5)", many);
+        due(Lie.IN, "LINESTRING(-15 0,22 0,0 5)", many);
+        due(Lie.MEET, "LINESTRING(0 5,-15 0,23 0)", many);
+        due(Lie.TOUCH, "POLYGON((-16 0,23 0,0 -9,-16 0))", many);
+        due(Lie.MEET, "POLYGON((-16 0,23 0,0 4,-16 0))", many);
+        due(Lie.IN, "POLYGON((-14 0,21 0,0 4,-14 0))", many);
+        due(Lie.SAME, "LINESTRING(-15 0,22 0)", "LINESTRING(" + row + "21 0)");
+    }
+
+    /** A comb of 40 places, crossed by ways that meet all of its teeth. */
+    private static void manyCrossings() {
+        StringBuilder row = new StringBuilder();
+        for (int i = 0; i < 37; i++) {
+            row.append(i - 18).append(i % 2 == 0 ? " 0," : " 8,");
+        }
+        String comb = "POLYGON((" + row + "18 -4,-18 -4,-18 0))";
+        due(Lie.MEET, "LINESTRING(-19 4,19 4)", comb);
+        due(Lie.TOUCH, "LINESTRING(-19 8,19 8)", comb);
+        due(Lie.MEET, "LINESTRING(-19 7,19 7)", comb);
+        due(Lie.IN, "LINESTRING(-18 0,18 0)", comb);
+        due(Lie.MEET, "LINESTRING(-19 0,19 0)", comb);
+        due(Lie.TOUCH, "POLYGON((-18 8,18 8,0 20,-18 8))", comb);
+        due(Lie.MEET, "POLYGON((-18 7,18 7,0 20,-18 7))", comb);
+        due(Lie.IN, "POLYGON((-18 0,18 0,0 -4,-18 0))", comb);
+        due(Lie.IN, comb, "POLYGON((-18 -4,18 -4,18 8,-18 8,-18 -4))");
+    }
+
+    /** What is asked ahead leaves no trace: all the pairs, of one base, one behind the other and back. */
+    private static void oneBaseForAll() {
+        for (int from = 0; from < PAIRS.size(); from += 30) {
+            Desk desk = new Desk();
+            int stop = Math.min(from + 30, PAIRS.size());
+            StringBuilder text = new StringBuilder();
+            for (int i = from; i < stop; i++) {
+                text.append("ADD ").append(2 * i + 1).append(PAIRS.get(i)[0]).append(";ADD ").append(2 * i + 2).append(PAIRS.get(i)[1]).append(";");
+            }
+            desk.sayLong(text.toString());
+            for (int n = 0; n < 2 * (stop - from); n++) {
+                int i = n < stop - from ? from + n : stop - 1 - (n - (stop - from));
+                int bits = Lie.valueOf(PAIRS.get(i)[2]).bits;
+                for (int rel = 0; rel < 5; rel++) {
+                    Desk.due("relation " + rel + " of " + PAIRS.get(i)[0] + " and " + PAIRS.get(i)[1],
+                        desk.base.relate(rel, 2 * i + 1, 2 * i + 2), bits >> rel & 1);
+                }
+            }
+        }
     }
 
     private static void dueBits(String a, String b, Lie lie) {

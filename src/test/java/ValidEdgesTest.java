@@ -1,3 +1,6 @@
+import java.util.ArrayList;
+import java.util.List;
+
 /** The edges of what "2 SHAPES" calls VALID, sentence by sentence; each case turned, mirrored, leaning and in great numbers. */
 public final class ValidEdgesTest {
     private static final String SHELL = "(0 0,10 0,10 10,0 10,0 0)";
@@ -28,10 +31,16 @@ public final class ValidEdgesTest {
         chainsOfHoles();
         pointsTakenOnce();
         manyHoles();
+        oneBaseForAll();
         Desk.finish();
     }
 
+    private static final List<String> TEXTS = new ArrayList<>();
+    private static final List<Boolean> ANSWERS = new ArrayList<>();
+
     private static void due(boolean isValid, String text) {
+        TEXTS.add(text);
+        ANSWERS.add(isValid);
         Figure figure = Figure.of(text);
         Desk.due("the oracle says of " + text, Oracle.isValid(figure), isValid);
         for (long[] map : Maps.ALL) {
@@ -311,6 +320,12 @@ public final class ValidEdgesTest {
         validHoles("(2 2,4 2,4 4,2 2),(4 4,6 2,8 2,8 8,4 4),(4 2,5 1,5 2,4 2)");
         noHoles("(0 3,3 2,3 5,0 3),(3 5,5 3,5 7,3 5),(5 7,6 10,4 9,5 7)");
         validHoles("(0 3,3 2,3 5,0 3),(3 5,5 3,5 7,3 5),(5 7,6 9,4 9,5 7)");
+        // The third hole touches the first ring, the second the third, and then the first ring too.
+        String sided = "POLYGON((0 0,10 0,10 10,0 10,0 5,0 0),(8 8,9 8,9 9,8 8),";
+        none(sided + "(4 5,6 4,10 5,6 6,4 5),(0 5,4 5,3 7,0 5))");
+        valid(sided + "(4 5,6 4,9 5,6 6,4 5),(0 5,4 5,3 7,0 5))");
+        valid(sided + "(3 2,6 1,6 3,3 2),(0 5,4 5,3 7,0 5))");
+        valid(sided + "(10 2,6 1,6 3,10 2),(1 5,4 5,3 7,1 5))");
         validHoles("(0 3,3 2,3 4,0 3),(10 7,7 6,7 8,10 7),(5 0,6 2,4 2,5 0),(5 10,6 8,4 8,5 10)");
     }
 
@@ -334,5 +349,17 @@ public final class ValidEdgesTest {
         validHoles(row + ",(7 5,8 7,1 7,1 6,2 6,7 5)");
         noHoles(row.replace("(1 5,", "(0 5,").replace("2 5,1 5)", "2 5,0 5)") + ",(7 5,10 4,9 5,7 5)");
         validHoles("(5 5,9 4,9 5,5 5),(5 5,9 6,9 7,5 5),(5 5,9 8,9 9,5 5),(5 5,8 9,7 9,5 5),(5 5,6 9,5 9,5 5),(5 5,4 9,3 9,5 5),(5 5,2 9,1 9,5 5)");
+    }
+
+    /** What was asked ahead leaves no trace: all of these texts, of one base, one behind the other and back. */
+    private static void oneBaseForAll() {
+        int n = TEXTS.size();
+        for (int from = 0; from < 2 * n; from += 40) {
+            Desk desk = new Desk();
+            for (int i = from; i < from + 40 && i < 2 * n; i++) {
+                int row = i < n ? i : 2 * n - 1 - i;
+                desk.dueInts("FIND DISJOINT " + TEXTS.get(row) + ";", ANSWERS.get(row) ? new int[] {0, 0} : new int[] {3});
+            }
+        }
     }
 }
