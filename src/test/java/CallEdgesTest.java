@@ -397,6 +397,13 @@ public final class CallEdgesTest {
         desk.base.recover();
         Desk.due("flaws", desk.base.flaws(), 0);
         Desk.due("live", desk.base.live(), 200);
+        Desk full = new Desk();
+        full.dueInts("ADD 1 POINT(1 1);ADD 9 POINT(1 1);SAVE;", 0, 0, 0);
+        full.sayLong("BEGIN;" + Desk.bytes(14112));
+        Desk.due("flaws of a full transaction", full.base.flaws(), 0);
+        full.dueInts("COMMIT;", 0);
+        Desk.due("used", full.base.used(), 64);
+        Desk.due("flaws of a full log", full.base.flaws(), 0);
     }
 
     /** "An object is used for at most 512 calls": all of these hold. */
